@@ -1,0 +1,132 @@
+import java.io.IOException;
+import java.lang.reflect.Constructor;
+import java.lang.reflect.Field;
+import java.lang.reflect.Method;
+import java.lang.reflect.Modifier;
+import java.nio.file.Files;
+import java.nio.file.Path;
+import java.util.ArrayList;
+import java.util.List;
+import java.util.Set;
+import java.util.TreeSet;
+import java.util.regex.Pattern;
+
+/** The rules of LANGUAGE.md that can be seen from outside or in the words of the file, and the document's public face. */
+public final class LanguageTest {
+    private static final String FACE = "barrel(int,int,int) sets(int,int) gap(int,int) side(int) ticks(int,int) "
+            + "note(int,int,int,int) drop(int,int) shift(int,int) tune(int,int) noteOf(int,int,int) pins(int) off(int) "
+            + "fits(int) settles() pin(int,int,int) why(int) all(int) bridge(int,int) free(int) plays(int,int) mends(int) "
+            + "heard(int,int) tells(int,int) wrong(int) type(int) clear() reads() back() told(int) digest()";
+
+    public static void main(String[] args) throws IOException {
+        face();
+        membersArePrivate();
+        classesInside();
+        words();
+        lengths();
+        Check.end();
+    }
+
+    private static void face() {
+        Set<String> found = new TreeSet<>();
+        for (Method m : OrganBarrel.class.getDeclaredMethods()) {
+            if (Modifier.isPublic(m.getModifiers())) {
+                List<String> types = new ArrayList<>();
+                for (Class<?> type : m.getParameterTypes()) {
+                    types.add(type.getName());
+                }
+                found.add(m.getName() + "(" + String.join(",", types) + ")");
+                Check.that(m.getName() + " answers as told",
+                        m.getReturnType() == (m.getName().equals("digest") ? long.class : int.class));
+            }
+        }
+        Check.that("the face is the document's: " + found, found.equals(new TreeSet<>(List.of(FACE.split(" ")))));
+        Check.that("public and final", Modifier.isPublic(OrganBarrel.class.getModifiers())
+                && Modifier.isFinal(OrganBarrel.class.getModifiers()));
+        Constructor<?>[] made = OrganBarrel.class.getDeclaredConstructors();
+        Check.that("one public constructor", made.length == 1 && Modifier.isPublic(made[0].getModifiers())
+                && made[0].getParameterCount() == 0);
+    }
+
+    private static void membersArePrivate() {
+        Set<String> constants = Set.of("NONE", "BAD", "NO", "FULL");
+        for (Field f : OrganBarrel.class.getDeclaredFields()) {
+            Check.that(f.getName() + " is seen as told", Modifier.isPublic(f.getModifiers()) == constants.contains(f.getName())
+                    && (Modifier.isPublic(f.getModifiers()) || Modifier.isPrivate(f.getModifiers())));
+        }
+        for (Method m : OrganBarrel.class.getDeclaredMethods()) {
+            Check.that(m.getName() + " is public or private",
+                    Modifier.isPublic(m.getModifiers()) || Modifier.isPrivate(m.getModifiers()));
+        }
+    }
+
+    private static void classesInside() {
+        Set<String> names = new TreeSet<>();
+        for (String call : FACE.split(" ")) {
+            names.add(call.substring(0, call.indexOf('(')));
+        }
+        Class<?>[] inside = OrganBarrel.class.getDeclaredClasses();
+        Check.that("at most twelve classes", inside.length < 12);
+        for (Class<?> c : inside) {
+            Check.that(c + " is static", Modifier.isStatic(c.getModifiers()));
+            Check.that(c + " is not public", !Modifier.isPublic(c.getModifiers()) && !Modifier.isProtected(c.getModifiers()));
+            for (Method m : c.getDeclaredMethods()) {
+                Check.that(m + " has a name of its own", !names.contains(m.getName()));
+            }
+            fewFields(c);
+            fewParameters(c);
+        }
+        fewFields(OrganBarrel.class);
+        fewParameters(OrganBarrel.class);
+    }
+
+    private static void fewFields(Class<?> c) {
+        int fields = 0;
+        for (Field f : c.getDeclaredFields()) {
+            if (Modifier.isStatic(f.getModifiers())) {
+                Check.that(f + " is final", Modifier.isFinal(f.getModifiers()));
+            } else {
+                fields++;
+            }
+        }
+        Check.that(c + " has at most twenty fields", fields <= 20);
+    }
+
+    private static void fewParameters(Class<?> c) {
+        for (Method m : c.getDeclaredMethods()) {
+            Check.that(m + " takes at most seven", m.getParameterCount() <= 7);
+        }
+    }
+
+    private static String code() throws IOException {
+        String file = Files.readString(Path.of("src/main/java/OrganBarrel.java"));
+        return file.replaceAll("(?s)/\\*.*?\\*/", "").replaceAll("//[^\n]*", "").replaceAll("'[^']*'", "0");
+    }
+
+    private static void words() throws IOException {
+        String code = code();
+        String[] forbidden = {"\\bthrow\\b", "\\btry\\b", "\\bcatch\\b", "\\bsynchronized\\b", "\\bassert\\b", "->", "::",
+            "\\bpackage\\b", "Exact\\b", "\\bSystem\\.(?!arraycopy)", "\\bThread\\b", "\\bRandom\\b", "\\bdouble\\b", "\\bfloat\\b",
+            "\\bObject\\b", "\\bhashCode\\b", "\\bprotected\\b", "import (?!java\\.util\\.Arrays;)", "\\bArrays\\.(?!fill\\b)",
+            "\\bMath\\.(?!min\\b|max\\b|abs\\b)", "static\\s*\\{", "\"", "while"};
+        for (String word : forbidden) {
+            Check.that("the file has no " + word, !Pattern.compile(word).matcher(code).find());
+        }
+    }
+
+    /** Methods of the class stand at four blanks, those of classes inside it at eight. */
+    private static void lengths() throws IOException {
+        String[] lines = Files.readString(Path.of("src/main/java/OrganBarrel.java")).split("\n");
+        Pattern head = Pattern.compile("^( {4}| {8})[A-Za-z].*\\)( \\{|)$");
+        int open = -1;
+        for (int i = 0; i < lines.length; i++) {
+            if (head.matcher(lines[i]).matches()) {
+                open = i;
+            }
+            if (open >= 0 && lines[i].matches("( {4}| {8})\\}")) {
+                Check.that("the method at line " + (open + 1) + " has at most sixty lines", i - open <= 60);
+                open = -1;
+            }
+        }
+    }
+}
