@@ -1,0 +1,281 @@
+/** The edges of SETTLING and promise 15; each sentence of the document has a test. */
+public final class EdgesOfSettling {
+    private static final int R = 6;
+
+    private static final Twins NEW = new Twins("new", OrganBarrel::new);
+    private static final Twins RICH = new Twins("rich", Made::rich);
+    private static final Twins FULL = new Twins("full", Made::full);
+    private static final Twins SMALL = new Twins("small", Made::small);
+
+    public static void main(String[] args) {
+        allAreTakenOff();
+        theyArePinnedAsNow();
+        leastShifts();
+        likeSums();
+        shiftsGoRound();
+        shiftsOfOthersStay();
+        answersTheSum();
+        noNotes();
+        tooSoonOfTheFirst();
+        noShifts();
+        leavesAState();
+        Check.end();
+    }
+
+    private static void allAreTakenOff() {
+        Check.sentence("SETTLING: all TUNES are taken OFF");
+        OrganBarrel x = new OrganBarrel();
+        x.gap(0, 0);
+        x.note(1, 0, 0, 24);
+        x.pins(1);
+        x.ticks(1, 24);
+        x.note(0, 0, 3, 2);
+        x.note(2, 0, 4, 2);
+        Check.due("pins 0: TUNE 1 is in the way", x.pins(0), OrganBarrel.NO);
+        Check.due("settles: it is not", x.settles(), 0);
+        Check.due("PINNED TUNES", x.all(0), 5);
+        Check.due("TUNE 1 is OFF", x.tune(1, 3), 0);
+    }
+
+    private static void theyArePinnedAsNow() {
+        Check.sentence("then those that have NOTES are PINNED");
+        OrganBarrel x = Made.full();
+        x.plays(0, 50);
+        x.ticks(1, 5);
+        x.sets(0, 2);
+        x.note(1, 0, 1, 1);
+        x.shift(2, 7);
+        // TUNE 1 has 5 .. 9 of KEY 0 now, beside 1 .. 4 and 13 .. 16 of both others: one ANGLE on it is APART by SIDE 1.
+        Check.due("settles", x.settles(), 1);
+        int[][] due = {{24, 12, 0, 1, 24, 0, 12, 2}, {5, 1, 1, 1, 5, 1, 1, 2}, {24, 12, 0, 1, 24, 0, 12, 2}};
+        for (int t = 0; t < 3; t++) {
+            for (int what = 0; what <= 7; what++) {
+                Check.due("tune " + t + " " + what, x.tune(t, what), due[t][what]);
+            }
+            Check.due("WEAR of TUNE " + t, x.pin(t, 0, 3), 0);
+        }
+        Check.due("BEGIN", x.pin(1, 0, 1), 6);
+        Check.due("HOLDS", x.pin(1, 0, 2), 5);
+    }
+
+    /** Every choice of one NOTE or none in 3 TUNES of 6 ANGLES, with all SHIFTS tried. */
+    private static void leastShifts() {
+        Check.sentence("PINNED by SHIFTS (each 0 .. R less 1) by which all can be beside one another: those of the least sum, of like "
+                + "ones of the least SHIFT of TUNE 0, then 1, then 2.");
+        int[][] notes = new int[R * (R + 1) / 2 + 1][];
+        int count = 1;
+        for (int s = 0; s < R; s++) {
+            for (int l = 1; l <= R - s; l++) {
+                notes[count] = new int[] {s, l};
+                count++;
+            }
+        }
+        for (int side = 0; side <= 2; side++) {
+            for (int[] a : notes) {
+                for (int[] b : notes) {
+                    for (int[] c : notes) {
+                        settles(side, new int[][] {a, b, c});
+                    }
+                }
+            }
+        }
+    }
+
+    private static void settles(int side, int[][] notes) {
+        OrganBarrel x = new OrganBarrel();
+        x.barrel(R, 1, 3);
+        x.gap(0, 0);
+        x.side(side);
+        for (int t = 0; t < 3; t++) {
+            if (notes[t] != null) {
+                x.note(t, 0, notes[t][0], notes[t][1]);
+            }
+        }
+        int[] best = tryAll(side, notes);
+        if (notes[0] == null && notes[1] == null && notes[2] == null) {
+            return;
+        }
+        Check.due("settles", x.settles(), best == null ? OrganBarrel.NO : best[0] + best[1] + best[2]);
+        for (int t = 0; t < 3; t++) {
+            boolean pinned = best != null && notes[t] != null;
+            Check.due("SHIFT of TUNE " + t, x.tune(t, 2), pinned ? best[t] : 0);
+            Check.due("SHIFT as PINNED of TUNE " + t, x.tune(t, 5), pinned ? best[t] : OrganBarrel.NONE);
+        }
+    }
+
+    private static int[] tryAll(int side, int[][] notes) {
+        int[] best = null;
+        for (int a = 0; a < (notes[0] == null ? 1 : R); a++) {
+            for (int b = 0; b < (notes[1] == null ? 1 : R); b++) {
+                if (!beside(side, notes[0], a, notes[1], b)) {
+                    continue;
+                }
+                for (int c = 0; c < (notes[2] == null ? 1 : R); c++) {
+                    boolean less = best == null || a + b + c < best[0] + best[1] + best[2];
+                    if (less && beside(side, notes[1], b, notes[2], c)) {
+                        best = new int[] {a, b, c};
+                    }
+                }
+            }
+        }
+        return best;
+    }
+
+    private static boolean beside(int side, int[] one, int shift, int[] other, int otherShift) {
+        if (one == null || other == null) {
+            return true;
+        }
+        int from = (one[0] + shift) % R;
+        int to = (other[0] + otherShift) % R;
+        if (from == to) {
+            return one[1] == other[1];
+        }
+        return (to - from + R) % R >= one[1] + side && (from - to + R) % R >= other[1] + side;
+    }
+
+    private static void likeSums() {
+        Check.sentence("of like ones of the least SHIFT of TUNE 0, then 1, then 2");
+        // 4 ANGLES from 0 on, and 2 from 1 on: the one goes on by 4, or the other does.
+        int[][] pairs = {{0, 1}, {1, 0}, {1, 2}, {2, 1}};
+        for (int[] pair : pairs) {
+            OrganBarrel x = new OrganBarrel();
+            x.note(pair[0], 0, 0, 4);
+            x.note(pair[1], 0, 1, 2);
+            Check.due("settles", x.settles(), 4);
+            int lesser = Math.min(pair[0], pair[1]);
+            Check.due("SHIFT of TUNE " + lesser, x.tune(lesser, 2), 0);
+            Check.due("SHIFT of the other", x.tune(lesser + 1, 2), 4);
+        }
+    }
+
+    private static void shiftsGoRound() {
+        Check.sentence("SHIFTS (each 0 .. R less 1)");
+        for (int r = 6; r <= 24; r++) {
+            // By SIDE 0 the second one fills what the first one leaves, to the last ANGLE.
+            OrganBarrel x = new OrganBarrel();
+            x.barrel(r, 1, 2);
+            x.gap(0, 0);
+            x.side(0);
+            x.note(0, 0, 0, 1);
+            x.note(1, 0, 0, r - 1);
+            Check.due("settles", x.settles(), 1);
+            Check.due("SHIFT of TUNE 0", x.tune(0, 2), 0);
+            Check.due("SHIFT of TUNE 1", x.tune(1, 2), 1);
+            x.ticks(1, r);
+            x.note(1, 0, 0, r - 1);
+            x.note(1, 0, r - 1, 1);
+            // No place but ALIKE to the one at the last ANGLE, which comes round to 0.
+            Check.due("settles", x.settles(), 1);
+            Check.due("SHIFT of TUNE 0", x.tune(0, 2), 0);
+            Check.due("SHIFT of TUNE 1", x.tune(1, 2), 1);
+            x.ticks(0, r);
+            x.note(0, 0, 0, r - 1);
+            x.note(0, 0, r - 1, 1);
+            Check.due("settles: ALIKE, as they are", x.settles(), 0);
+            x.ticks(0, r);
+            x.note(0, 0, 1, r - 1);
+            x.note(0, 0, 0, 1);
+            Check.due("settles: ALIKE, one of them on by 1 or R less 1", x.settles(), 1);
+            Check.due("SHIFT of TUNE 0", x.tune(0, 2), 0);
+        }
+    }
+
+    private static void shiftsOfOthersStay() {
+        Check.sentence("(SHIFTS of others stay.)");
+        OrganBarrel x = new OrganBarrel();
+        x.shift(0, 23);
+        x.shift(1, 11);
+        x.shift(2, 5);
+        x.note(1, 0, 0, 1);
+        Check.due("settles", x.settles(), 0);
+        Check.due("SHIFT of TUNE 0, no NOTES", x.tune(0, 2), 23);
+        Check.due("SHIFT of TUNE 1", x.tune(1, 2), 0);
+        Check.due("SHIFT of TUNE 2, no NOTES", x.tune(2, 2), 5);
+    }
+
+    private static void answersTheSum() {
+        Check.sentence("SETTLING: SHIFTS of all that are PINNED then together.");
+        OrganBarrel x = new OrganBarrel();
+        x.shift(1, 20);
+        x.note(0, 0, 0, 1);
+        x.note(2, 0, 0, 2);
+        Check.due("SHIFT of one that is not PINNED is not in it", x.settles(), 0);
+        OrganBarrel y = Made.large();
+        y.note(0, 0, 0, 2);
+        y.note(1, 0, 0, 3);
+        y.note(2, 0, 0, 4);
+        // TUNE 1 stays, TUNE 0 goes on by 4 and TUNE 2 too; or TUNE 1 goes on by 5, behind both.
+        Check.due("settles", y.settles(), 5);
+        Check.due("SHIFT of TUNE 1", y.tune(1, 2), 5);
+    }
+
+    private static void noNotes() {
+        Check.sentence("If it can not be: KIND 4, if no TUNE has NOTES");
+        NEW.noBecause("settles", OrganBarrel::settles, 4, 0, 0);
+        SMALL.noBecause("settles", OrganBarrel::settles, 4, 0, 0);
+        Twins pinned = new Twins("full, NOTES gone,", () -> {
+            OrganBarrel x = Made.full();
+            for (int t = 0; t < 3; t++) {
+                x.ticks(t, 24);
+            }
+            return x;
+        });
+        pinned.noBecause("settles, all PINNED yet", OrganBarrel::settles, 4, 0, 0);
+    }
+
+    private static void tooSoonOfTheFirst() {
+        Check.sentence("KIND 1 of the first TUNE of which (1) does not hold");
+        for (int first = 0; first < 3; first++) {
+            int from = first;
+            Twins twins = new Twins("rich, (1) not of TUNES from " + from + " on,", () -> {
+                OrganBarrel x = Made.rich();
+                x.gap(1, 3);
+                for (int t = from; t < 3; t++) {
+                    x.ticks(t, 18);
+                    x.note(t, 0, 0, 1);
+                    x.note(t, 1, t, 2);
+                    x.note(t, 1, t + 4, 1);
+                }
+                return x;
+            });
+            twins.noBecause("settles", OrganBarrel::settles, 1, 1, 2);
+        }
+        OrganBarrel x = new OrganBarrel();
+        x.gap(3, 0);
+        x.note(2, 3, 0, 24);
+        x.note(2, 0, 0, 23);
+        x.note(2, 1, 0, 24);
+        x.note(1, 0, 0, 24);
+        Check.due("settles", x.settles(), OrganBarrel.NO);
+        Check.cause("TUNE 1 before TUNE 2", x, 1, 0, 0, -1);
+        x.ticks(1, 24);
+        Check.due("settles", x.settles(), OrganBarrel.NO);
+        Check.cause("NOTE 2 of TUNE 2", x, 1, 2, 0, -1);
+    }
+
+    private static void noShifts() {
+        Check.sentence("else 3");
+        RICH.noBecause("settles", OrganBarrel::settles, 3, 0, 0);
+        // Just room, or just none: 7 and 9 and twice SIDE are 18 or 20 ANGLES.
+        for (int side = 0; side <= 3; side++) {
+            OrganBarrel x = new OrganBarrel();
+            x.barrel(18, 1, 3);
+            x.side(side);
+            x.note(1, 0, 0, 7);
+            x.note(2, 0, 0, 9);
+            Check.due("settles by SIDE " + side, x.settles(), side <= 1 ? 7 + side : OrganBarrel.NO);
+            Check.due("KIND", x.why(0), side <= 1 ? 0 : 3);
+            Check.due("PINNED TUNES", x.all(0), side <= 1 ? 6 : 0);
+        }
+    }
+
+    private static void leavesAState() {
+        Check.sentence("settles: S. NO, and CAUSE.");
+        FULL.does("settles", OrganBarrel::settles, 0);
+        new Twins("rich, TUNE 2 without NOTES,", () -> {
+            OrganBarrel x = Made.rich();
+            x.ticks(2, 9);
+            return x;
+        }).does("settles", OrganBarrel::settles, 0);
+    }
+}
