@@ -148,7 +148,8 @@ final class Twins {
         return new int[] {x.told(0), x.told(1), x.told(2), x.why(0), x.why(1), x.why(2), x.why(3)};
     }
 
-    private static List<Integer> seen(Supplier<OrganBarrel> makes, int back) {
+    /** All that can be seen of an object so many STATES back, but for how often refused, CAUSE and how many STATES. */
+    static List<Integer> seen(Supplier<OrganBarrel> makes, int back) {
         List<Integer> all = new ArrayList<>();
         List<BiConsumer<OrganBarrel, List<Integer>>> parts = List.of(Twins::barrelAndTunes, Twins::notes, Twins::pins,
                 Twins::bridges, Twins::sounds, Twins::gapsAndText);
