@@ -9,6 +9,7 @@ public final class EdgesOfPins {
     private static final Consumer<OrganBarrel> NOTHING = x -> { };
 
     public static void main(String[] args) {
+        fromAngleToAngle();
         pinIsOnItsTrack();
         beginGoesRound();
         holdsGoRound();
@@ -47,6 +48,33 @@ public final class EdgesOfPins {
         }
         x.side(side);
         return x;
+    }
+
+    private static void fromAngleToAngle() {
+        Check.sentence("From ANGLE a to b it is b less a, by R left over, 0 or more.");
+        for (int a = 0; a < 9; a++) {
+            for (int b = 0; b < 9; b++) {
+                if (a == b) {
+                    continue;
+                }
+                int due = 0;
+                for (int at = a; at != b; at = at == 8 ? 0 : at + 1) {
+                    due++;
+                }
+                OrganBarrel x = plain(9, 1, 1);
+                x.note(0, 0, a, 1);
+                x.note(0, 0, b, 1);
+                x.pins(0);
+                Check.due("from " + a + " to " + b + ", less 1", x.pin(0, 0, 5), due - 1);
+                Check.due("from " + b + " to " + a + ", less 1", x.pin(0, 1, 5), 9 - due - 1);
+            }
+        }
+        // From an ANGLE to itself it is 0, not R: one that HOLDS all is not APART to one that begins where it does.
+        OrganBarrel x = plain(9, 1, 0);
+        x.note(0, 0, 4, 1);
+        x.pins(0);
+        x.note(1, 0, 4, 5);
+        Check.due("pins 1", x.pins(1), OrganBarrel.NO);
     }
 
     private static void pinIsOnItsTrack() {

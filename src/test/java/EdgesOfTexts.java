@@ -39,6 +39,7 @@ public final class EdgesOfTexts {
         orderStopsAll();
         orderBehindOthers();
         readsAnswers();
+        readsRefused();
         readsLeavesTheText();
         nothingCounts();
         Check.end();
@@ -391,6 +392,21 @@ public final class EdgesOfTexts {
             Check.due("STATES", y.told(10), 1);
             Check.due("back", y.back(), 0);
             Check.due("SIDE", y.told(8), 1);
+        }
+    }
+
+    private static void readsRefused() {
+        Check.sentence("-10 less the FAULT; -1000 less the number of the ORDER (0 on) that stops all, and CAUSE.");
+        for (int n = 0; n < 40; n++) {
+            OrganBarrel x = new OrganBarrel();
+            Check.due("reads, the ORDER " + n, Check.reads(x, "e1;".repeat(n) + "e7;".repeat(40 - n)), -1000 - n);
+            Check.cause("the ORDER " + n, x, 5, 0, 0, n);
+        }
+        for (int n = 0; n < 120; n++) {
+            OrganBarrel x = new OrganBarrel();
+            Check.due("reads, the FAULT " + n, Check.reads(x, " ".repeat(n) + "x".repeat(120 - n)), -10 - n);
+            Check.due("reads, the FAULT " + n + " at its end", Check.reads(x, " ".repeat(n)), -10 - n);
+            Check.cause("a FAULT", x, 0, 0, 0, -1);
         }
     }
 
