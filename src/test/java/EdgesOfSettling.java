@@ -71,30 +71,40 @@ public final class EdgesOfSettling {
             }
         }
         for (int side = 0; side <= 2; side++) {
-            for (int[] a : notes) {
-                for (int[] b : notes) {
-                    for (int[] c : notes) {
-                        settles(side, new int[][] {a, b, c});
+            settlesAll(side, notes, new int[] {0, 0, 0});
+        }
+        int[][] few = {null, {0, 1}, {0, 4}, {1, 2}, {3, 3}, {5, 1}};
+        for (int keys = 1; keys < 8; keys++) {
+            for (int side = 0; side <= 3; side++) {
+                settlesAll(side, few, new int[] {keys & 1, keys >> 1 & 1, keys >> 2});
+            }
+        }
+    }
+
+    private static void settlesAll(int side, int[][] notes, int[] keys) {
+        for (int[] a : notes) {
+            for (int[] b : notes) {
+                for (int[] c : notes) {
+                    if (a != null || b != null || c != null) {
+                        settles(side, new int[][] {a, b, c}, keys);
                     }
                 }
             }
         }
     }
 
-    private static void settles(int side, int[][] notes) {
+    private static void settles(int side, int[][] notes, int[] keys) {
         OrganBarrel x = new OrganBarrel();
-        x.barrel(R, 1, 3);
+        x.barrel(R, 2, 3);
         x.gap(0, 0);
+        x.gap(1, 0);
         x.side(side);
         for (int t = 0; t < 3; t++) {
             if (notes[t] != null) {
-                x.note(t, 0, notes[t][0], notes[t][1]);
+                x.note(t, keys[t], notes[t][0], notes[t][1]);
             }
         }
-        int[] best = tryAll(side, notes);
-        if (notes[0] == null && notes[1] == null && notes[2] == null) {
-            return;
-        }
+        int[] best = tryAll(side, notes, keys);
         Check.due("settles", x.settles(), best == null ? OrganBarrel.NO : best[0] + best[1] + best[2]);
         for (int t = 0; t < 3; t++) {
             boolean pinned = best != null && notes[t] != null;
@@ -103,22 +113,31 @@ public final class EdgesOfSettling {
         }
     }
 
-    private static int[] tryAll(int side, int[][] notes) {
+    private static int[] tryAll(int side, int[][] notes, int[] keys) {
         int[] best = null;
         for (int a = 0; a < (notes[0] == null ? 1 : R); a++) {
             for (int b = 0; b < (notes[1] == null ? 1 : R); b++) {
-                if (!beside(side, notes[0], a, notes[1], b)) {
-                    continue;
-                }
                 for (int c = 0; c < (notes[2] == null ? 1 : R); c++) {
                     boolean less = best == null || a + b + c < best[0] + best[1] + best[2];
-                    if (less && beside(side, notes[1], b, notes[2], c)) {
+                    if (less && allBeside(side, notes, keys, new int[] {a, b, c})) {
                         best = new int[] {a, b, c};
                     }
                 }
             }
         }
         return best;
+    }
+
+    private static boolean allBeside(int side, int[][] notes, int[] keys, int[] shifts) {
+        for (int t = 0; t < 3; t++) {
+            for (int u = t + 1; u < 3; u++) {
+                boolean neighbours = Math.abs(3 * keys[t] + t - 3 * keys[u] - u) == 1;
+                if (neighbours && !beside(side, notes[t], shifts[t], notes[u], shifts[u])) {
+                    return false;
+                }
+            }
+        }
+        return true;
     }
 
     private static boolean beside(int side, int[] one, int shift, int[] other, int otherShift) {
@@ -233,12 +252,21 @@ public final class EdgesOfSettling {
                 for (int t = from; t < 3; t++) {
                     x.ticks(t, 18);
                     x.note(t, 0, 0, 1);
-                    x.note(t, 1, t, 2);
-                    x.note(t, 1, t + 4, 1);
+                    x.note(t, 1, 3, 2);
+                    x.note(t, 1, 5 + t, 1);
                 }
                 return x;
             });
-            twins.noBecause("settles", OrganBarrel::settles, 1, 1, 2);
+            twins.noBecause("settles", OrganBarrel::settles, 1, 1, from);
+        }
+        for (int t = 0; t < 3; t++) {
+            OrganBarrel alone = new OrganBarrel();
+            alone.note(0, 0, 0, 23 + (t == 0 ? 1 : 0));
+            alone.note(1, 1, 0, 23 + (t == 1 ? 1 : 0));
+            alone.note(2, 3, 0, 23 + (t == 2 ? 1 : 0));
+            Check.due("settles, (1) not of TUNE " + t + " alone", alone.settles(), OrganBarrel.NO);
+            Check.cause("TUNE " + t + " alone", alone, 1, 0, 0, -1);
+            Check.due("PINNED TUNES", alone.all(0), 0);
         }
         OrganBarrel x = new OrganBarrel();
         x.gap(3, 0);

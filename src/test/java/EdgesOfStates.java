@@ -31,6 +31,7 @@ public final class EdgesOfStates {
         digestOf("full", Made::full, 1, 1, 1, 1, 1, 1);
         digestChangesNothing();
         digestSeesEach();
+        askedAtOnce();
         calls512Refused();
         calls512Changing();
         calls512Wearing();
@@ -145,7 +146,7 @@ public final class EdgesOfStates {
         Check.sentence("(all but THE TEXT, CAUSE, how often refused)");
         OrganBarrel x = Made.rich();
         x.side(0);
-        Check.due("pins 0, of GAP and SIDE yet refused", x.pins(0), OrganBarrel.NO);
+        Check.due("pins 0, by SIDE 0 yet refused", x.pins(0), OrganBarrel.NO);
         Check.cause("pins 0", x, 2, 1, 17, -1);
         x.type('e');
         x.type('1');
@@ -343,6 +344,38 @@ public final class EdgesOfStates {
             long h = x.digest();
             Check.that("the digest behind change " + i + " is another one", !seen.contains(h));
             seen.add(h);
+        }
+    }
+
+    /** Answers are of what is now, whether or not anything was asked since it changed. */
+    private static void askedAtOnce() {
+        Check.sentence("Nothing is promised beyond the answers and state changes described above");
+        List<ToIntFunction<OrganBarrel>> changes = List.of(x -> x.off(0), x -> x.off(1), x -> x.pins(1), x -> x.sets(2, 1), OrganBarrel::back,
+                x -> x.barrel(18, 3, 3), x -> x.plays(0, 30), x -> x.mends(2), OrganBarrel::reads);
+        List<ToIntFunction<OrganBarrel>> questions = new ArrayList<>(List.of(x -> (int) x.digest(), x -> x.wrong(0), x -> x.wrong(1)));
+        for (int i = 0; i <= 6; i++) {
+            int what = i;
+            questions.add(x -> x.all(what));
+            questions.add(x -> x.bridge(what < 4 ? what : 0, 5));
+            questions.add(x -> x.pin(what % 2, what / 4, 4));
+        }
+        for (int i = 0; i < 18; i++) {
+            int at = i;
+            questions.add(x -> x.heard(0, at));
+            questions.add(x -> x.heard(1, at));
+            questions.add(x -> x.tells(0, at));
+            questions.add(x -> x.tells(1, at));
+        }
+        for (int c = 0; c < changes.size(); c++) {
+            for (int q = 0; q < questions.size(); q++) {
+                OrganBarrel x = Made.rich();
+                x.all(2);
+                changes.get(c).applyAsInt(x);
+                OrganBarrel y = Made.rich();
+                changes.get(c).applyAsInt(y);
+                y.all(2);
+                Check.due("question " + q + " behind change " + c, questions.get(q).applyAsInt(x), questions.get(q).applyAsInt(y));
+            }
         }
     }
 

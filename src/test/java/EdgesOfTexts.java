@@ -423,6 +423,10 @@ public final class EdgesOfTexts {
         Check.due("reads, more behind it", x.reads(), -1001);
         Check.due("reads once more", x.reads(), -1001);
         Check.due("STATES", x.told(10), 2);
+        OrganBarrel y = Made.full();
+        for (int i = 0; i < 100; i++) {
+            Check.due("reads the " + i + "th time", y.reads(), 40);
+        }
     }
 
     private static void nothingCounts() {
