@@ -4,6 +4,7 @@ public final class EdgesOfBridges {
     private static final Twins RICH = new Twins("rich", Made::rich);
     private static final Twins FULL = new Twins("full", Made::full);
     private static final Twins SMALL = new Twins("small", Made::small);
+    private static final Twins MANY = new Twins("many", Made::many);
 
     public static void main(String[] args) {
         oneAlone();
@@ -15,12 +16,14 @@ public final class EdgesOfBridges {
         inOrder();
         wearTogether();
         worn();
+        wornOnesGone();
         notHeard();
         limitAsNow();
         allLimits();
         allOfNothing();
         allOfRich();
         allOfFull();
+        allOfMany();
         pinnedTunes();
         emptyTracks();
         longestRows();
@@ -28,6 +31,7 @@ public final class EdgesOfBridges {
         bridgeLimits();
         bridgeNone();
         bridgeAnswers();
+        bridgeOfMany();
         freeLimits();
         freeAnswers();
         Check.end();
@@ -238,6 +242,45 @@ public final class EdgesOfBridges {
         Check.due("WORN at 99 by LIMIT 99", x.all(4), 1);
     }
 
+    private static OrganBarrel threeWorn() {
+        OrganBarrel x = new OrganBarrel();
+        for (int t = 0; t < 3; t++) {
+            x.note(t, t, 8 * t, 2);
+            x.pins(t);
+            x.plays(t, 20);
+        }
+        Check.due("WORN BRIDGES", x.all(4), 3);
+        return x;
+    }
+
+    private static void wornOnesGone() {
+        Check.sentence("WORN BRIDGES (4) (those that there are)");
+        OrganBarrel x = threeWorn();
+        for (int t = 2; t >= 0; t--) {
+            x.off(t);
+            Check.due("WORN BRIDGES, taken OFF down to " + t, x.all(4), t);
+        }
+        for (int left = 1; left <= 3; left++) {
+            x.back();
+            Check.due("WORN BRIDGES, taken back", x.all(4), left);
+        }
+        OrganBarrel anew = threeWorn();
+        anew.pins(2);
+        Check.due("WORN BRIDGES, one PINNED anew", anew.all(4), 2);
+        Check.due("plays 2 19", anew.plays(2, 19), 0);
+        Check.due("WORN BRIDGES, one PINNED anew and played", anew.all(4), 2);
+        anew.settles();
+        Check.due("WORN BRIDGES, all settled", anew.all(4), 0);
+        OrganBarrel mended = threeWorn();
+        mended.mends(0);
+        Check.due("WORN BRIDGES, the first one mended", mended.all(4), 2);
+        mended.mends(2);
+        Check.due("WORN BRIDGES, the last one mended", mended.all(4), 1);
+        OrganBarrel other = threeWorn();
+        other.barrel(24, 4, 3);
+        Check.due("WORN BRIDGES of another barrel", other.all(4), 0);
+    }
+
     private static void notHeard() {
         Check.sentence("WEAR by LIMIT (cut) ANGLES at its end are not HEARD (all that it HOLDS at most)");
         for (int limit : new int[] {1, 2, 3, 7, 99}) {
@@ -304,6 +347,19 @@ public final class EdgesOfBridges {
         Check.sentence("TRACKS on which no PIN lies (5), the longest row of ANGLES one behind the other, round, that no PIN on any "
                 + "TRACK HOLDS");
         answers(FULL, new int[] {7, 36, 2, 2, 0, 0, 8});
+    }
+
+    private static void allOfMany() {
+        Check.sentence("each PIN is of one BRIDGE (36 of 36)");
+        answers(MANY, new int[] {7, 36, 36, 0, 12, 0, 2});
+        OrganBarrel x = Made.many();
+        x.sets(2, 19);
+        Check.due("WORN BRIDGES", x.all(4), 24);
+        x.plays(0, 19);
+        Check.due("WORN BRIDGES, all", x.all(4), 36);
+        x.off(2);
+        Check.due("WORN BRIDGES without TUNE 2", x.all(4), 24);
+        Check.due("BRIDGES without TUNE 2", x.all(2), 24);
     }
 
     private static void pinnedTunes() {
@@ -437,6 +493,26 @@ public final class EdgesOfBridges {
         for (int i = 0; i <= 5; i++) {
             int what = i;
             FULL.answers("bridge 1 " + what, x -> x.bridge(1, what), full[what]);
+        }
+    }
+
+    /** By BEGIN those of TUNE 0, 1, 2, 0, 1, 2, six each. */
+    private static void bridgeOfMany() {
+        Check.sentence("the i-th BRIDGE (36 of them)");
+        int[] wear = {0, 20, 19};
+        OrganBarrel x = Made.many();
+        for (int i = 0; i < 36; i++) {
+            int t = i / 6 % 3;
+            int k = i % 6;
+            int[] due = {i / 6 * 4, 2, 3 * k + t, 1, wear[t], wear[t] / 20};
+            for (int what = 0; what <= 5; what++) {
+                Check.due("bridge " + i + " " + what, x.bridge(i, what), due[what]);
+            }
+            Check.due("the BRIDGE of its PIN", x.pin(t, 2 * k + i / 18, 4), i);
+        }
+        for (int i = 0; i <= 5; i++) {
+            int what = i;
+            MANY.answers("bridge 36 " + what, y -> y.bridge(36, what), OrganBarrel.NONE);
         }
     }
 

@@ -4,6 +4,7 @@ public final class EdgesOfPlaying {
     private static final Twins RICH = new Twins("rich", Made::rich);
     private static final Twins FULL = new Twins("full", Made::full);
     private static final Twins SMALL = new Twins("small", Made::small);
+    private static final Twins MANY = new Twins("many", Made::many);
 
     public static void main(String[] args) {
         playsLimits();
@@ -11,9 +12,11 @@ public final class EdgesOfPlaying {
         playsWears();
         playsAnswers();
         playsCountsABridgeOnce();
+        playsOneOfMany();
         mendsLimits();
         mendsNotSoMany();
         mendsAll();
+        mendsOneOfMany();
         heardLimits();
         heardNotPinned();
         heardOfItsPins();
@@ -96,6 +99,14 @@ public final class EdgesOfPlaying {
         Check.due("plays 1 1: WEAR 24 by LIMIT 25", x.plays(1, 1), 0);
     }
 
+    private static void playsOneOfMany() {
+        Check.sentence("how many BRIDGES with one of its PINS are WORN then (of 36)");
+        MANY.does("plays 0 19", x -> x.plays(0, 19), 0);
+        MANY.does("plays 0 20", x -> x.plays(0, 20), 12);
+        MANY.does("plays 1 1", x -> x.plays(1, 1), 12);
+        MANY.does("plays 2 1", x -> x.plays(2, 1), 12);
+    }
+
     private static void mendsLimits() {
         Check.sentence("mends: BAD");
         for (Twins twins : new Twins[] {NEW, RICH, FULL}) {
@@ -131,6 +142,20 @@ public final class EdgesOfPlaying {
         Check.due("mends 0", y.mends(0), 18);
         for (int i = 0; i < 12; i++) {
             Check.due("WEAR of PIN " + i, y.pin(2, i, 3), i % 2 == 0 ? 0 : 3);
+        }
+    }
+
+    private static void mendsOneOfMany() {
+        Check.sentence("mends: NO: not so many. (36)");
+        MANY.does("mends 0", x -> x.mends(0), 0);
+        MANY.does("mends 6", x -> x.mends(6), 20);
+        MANY.does("mends 35", x -> x.mends(35), 19);
+        MANY.no("mends 36", x -> x.mends(36));
+        OrganBarrel x = Made.many();
+        x.mends(35);
+        for (int i = 0; i < 36; i++) {
+            int due = i == 35 || i / 6 % 3 == 0 ? 0 : i / 6 % 3 == 1 ? 20 : 19;
+            Check.due("WEAR of BRIDGE " + i, x.bridge(i, 4), due);
         }
     }
 

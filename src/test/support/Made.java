@@ -79,4 +79,19 @@ final class Made {
         x.plays(2, 3);
         return x;
     }
+
+    /** 36 PINS of 36 BRIDGES, which are as many as can be; those of TUNE 1 are WORN, those of TUNE 2 not quite. */
+    static OrganBarrel many() {
+        OrganBarrel x = large();
+        for (int t = 0; t < 3; t++) {
+            for (int k = 0; k < 6; k++) {
+                x.note(t, k, 4 * t, 2);
+                x.note(t, k, 4 * t + 12, 2);
+            }
+            Check.due("pins of one of many", x.pins(t), 12);
+        }
+        Check.due("plays 1 20 of one of many", x.plays(1, 20), 12);
+        Check.due("plays 2 19 of one of many", x.plays(2, 19), 0);
+        return x;
+    }
 }
