@@ -31,6 +31,7 @@ public final class EdgesOfPins {
         offAnswers();
         offRefused();
         fitsLeast();
+        fitsByWay();
         fitsNone();
         fitsRefused();
         pinLimits();
@@ -332,6 +333,10 @@ public final class EdgesOfPins {
         stays("nothing", NOTHING);
         stays("note", x -> x.note(0, 1, 0, 1));
         stays("drop", x -> x.drop(0, 0));
+        stays("drop of all", x -> {
+            Check.due("drop 0 0", x.drop(0, 0), 1);
+            Check.due("drop 0 0", x.drop(0, 0), 0);
+        });
         stays("ticks", x -> x.ticks(0, 1));
         stays("ticks and other NOTES", x -> {
             x.ticks(0, 2);
@@ -344,6 +349,8 @@ public final class EdgesOfPins {
             x.gap(2, 6);
         });
         stays("SIDE", x -> x.side(3));
+        stays("LIMIT as it is", x -> x.sets(2, 7));
+        stays("LIMIT", x -> x.sets(2, 99));
         stays("refused pins", x -> x.pins(0));
         stays("refused settles", x -> {
             x.gap(1, 6);
@@ -487,6 +494,25 @@ public final class EdgesOfPins {
                 Check.due("fits 1 anew", x.fits(1), due);
                 x.off(0);
                 Check.due("fits 1 beside none", x.fits(1), 0);
+            }
+        }
+    }
+
+    /** TICK 2 of 5 goes from 9.6 to 14.4: 9 .. 13 by WAY 0, 10 .. 13 by WAY 1, 10 .. 14 by WAY 2. */
+    private static void fitsByWay() {
+        Check.sentence("could be PINNED now (by WAY as it is now)");
+        int[][] due = {{1, OrganBarrel.NONE}, {0, 0}, {0, OrganBarrel.NONE}};
+        for (int way = 0; way <= 2; way++) {
+            for (int room = 5; room >= 4; room--) {
+                OrganBarrel x = plain(24, 1, 0);
+                x.note(0, 0, 0, 10);
+                x.note(0, 0, 10 + room, 6);
+                x.pins(0);
+                x.ticks(1, 5);
+                x.note(1, 0, 2, 1);
+                x.sets(0, way);
+                Check.due("fits 1 in " + room + " ANGLES from 10 on, WAY " + way, x.fits(1), due[way][5 - room]);
+                Check.due("pins 1", x.pins(1), due[way][5 - room] == 0 ? 1 : OrganBarrel.NO);
             }
         }
     }

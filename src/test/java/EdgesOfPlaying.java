@@ -30,6 +30,9 @@ public final class EdgesOfPlaying {
         wrongNone();
         wrongByWear();
         wrongByNotesAsPinned();
+        wrongByWayAsPinned();
+        wrongOfEachSize();
+        takenOffIsNotPinned();
         Check.end();
     }
 
@@ -359,5 +362,75 @@ public final class EdgesOfPlaying {
         Check.due("wrong 0, no NOTES now", x.wrong(0), 0);
         x.sets(2, 18);
         Check.due("wrong 0: one ANGLE at each end", x.wrong(0), 2);
+    }
+
+    private static void wrongByWayAsPinned() {
+        Check.sentence("How many TICKS of a PINNED TUNE tell (ANGLE by .. WAY .. as PINNED)");
+        OrganBarrel x = new OrganBarrel();
+        x.ticks(0, 5);
+        x.note(0, 0, 2, 1);
+        x.pins(0);
+        x.sets(2, 1);
+        x.plays(0, 4);
+        // TICK 2 is at 9.6: by WAY 0, as PINNED, at 9, which is the one ANGLE of 9 .. 13 that is HEARD yet.
+        for (int way = 0; way <= 2; way++) {
+            x.sets(0, way);
+            Check.due("wrong 0, WAY " + way + " now", x.wrong(0), 0);
+        }
+        x.plays(0, 1);
+        Check.due("wrong 0, none is HEARD", x.wrong(0), 1);
+    }
+
+    private static void wrongOfEachSize() {
+        Check.sentence("How many TICKS .. tell other KEYS (of any R, TICKS, WAY)");
+        for (int r = 6; r <= 24; r++) {
+            for (int ticks = 1; ticks <= r; ticks++) {
+                for (int way = 0; way <= 2; way++) {
+                    wrongOfOneSize(r, ticks, way);
+                }
+            }
+        }
+    }
+
+    private static void wrongOfOneSize(int r, int ticks, int way) {
+        String size = ", R " + r + ", TICKS " + ticks + ", WAY " + way;
+        OrganBarrel x = new OrganBarrel();
+        x.barrel(r, 1, 2);
+        x.gap(0, 0);
+        x.sets(0, way);
+        x.ticks(0, ticks);
+        x.note(0, 0, ticks / 2, 1);
+        x.shift(0, r - 1);
+        Check.due("pins 0" + size, x.pins(0), 1);
+        Check.due("wrong 0" + size, x.wrong(0), 0);
+        int holds = x.pin(0, 0, 2);
+        x.sets(2, 1);
+        if (holds > 1) {
+            x.plays(0, holds - 1);
+            Check.due("wrong 0, one ANGLE HEARD yet" + size, x.wrong(0), 0);
+        }
+        x.plays(0, 1);
+        Check.due("wrong 0, none HEARD" + size, x.wrong(0), 1);
+    }
+
+    private static void takenOffIsNotPinned() {
+        Check.sentence("NO: it is not PINNED (it was, and was taken OFF)");
+        Twins twins = new Twins("rich, TUNE 0 OFF,", () -> {
+            OrganBarrel x = Made.rich();
+            x.off(0);
+            return x;
+        });
+        twins.no("off 0", x -> x.off(0));
+        twins.no("pin 0 0 0", x -> x.pin(0, 0, 0));
+        twins.no("plays 0 1", x -> x.plays(0, 1));
+        twins.no("heard 0 16", x -> x.heard(0, 16));
+        twins.no("tells 0 0", x -> x.tells(0, 0));
+        twins.no("tells 0 11", x -> x.tells(0, 11));
+        twins.no("wrong 0", x -> x.wrong(0));
+        twins.bad("tells 0 -1", x -> x.tells(0, -1));
+        for (int what = 3; what <= 7; what++) {
+            int asked = what;
+            twins.answers("tune 0 " + what, x -> x.tune(0, asked), what == 3 ? 0 : OrganBarrel.NONE);
+        }
     }
 }

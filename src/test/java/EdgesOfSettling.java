@@ -11,6 +11,9 @@ public final class EdgesOfSettling {
         allAreTakenOff();
         theyArePinnedAsNow();
         leastShifts();
+        bothOthersGoOn();
+        byWayAsNow();
+        byAnglesAsNow();
         likeSums();
         shiftsGoRound();
         shiftsOfOthersStay();
@@ -150,6 +153,63 @@ public final class EdgesOfSettling {
             return one[1] == other[1];
         }
         return (to - from + R) % R >= one[1] + side && (from - to + R) % R >= other[1] + side;
+    }
+
+    private static void bothOthersGoOn() {
+        Check.sentence("those of the least sum (of two SHIFTS, where one would do)");
+        // TUNE 2 lies between both others and has 0 .. 7. TUNE 0 at 6 and TUNE 1 at 5 go on to 9; or TUNE 2 goes on by 8.
+        for (int limit : new int[] {1, 2, 3, 4, 20, 99}) {
+            OrganBarrel x = new OrganBarrel();
+            x.barrel(12, 2, 3);
+            x.sets(2, limit);
+            x.note(0, 1, 6, 1);
+            x.note(1, 0, 5, 1);
+            x.note(2, 0, 0, 8);
+            Check.due("settles by LIMIT " + limit, x.settles(), 7);
+            Check.due("SHIFT of TUNE 0", x.tune(0, 2), 3);
+            Check.due("SHIFT of TUNE 1", x.tune(1, 2), 4);
+            Check.due("SHIFT of TUNE 2", x.tune(2, 2), 0);
+        }
+    }
+
+    /** TICK 2 of 5 goes from 9.6 to 14.4: 9 .. 13 by WAY 0, 10 .. 13 by WAY 1, 10 .. 14 by WAY 2. */
+    private static void byWayAsNow() {
+        Check.sentence("PINNED by SHIFTS (WAY as it is then)");
+        int[][] due = {{1, OrganBarrel.NO}, {0, 0}, {0, OrganBarrel.NO}};
+        for (int way = 0; way <= 2; way++) {
+            for (int room = 5; room >= 4; room--) {
+                OrganBarrel x = new OrganBarrel();
+                x.side(0);
+                x.gap(0, 0);
+                x.note(0, 0, 0, 10);
+                x.note(0, 0, 10 + room, 6);
+                x.ticks(1, 5);
+                x.note(1, 0, 2, 1);
+                x.sets(0, way);
+                Check.due("settles, " + room + " ANGLES from 10 on, WAY " + way, x.settles(), due[way][5 - room]);
+                Check.due("WAY as PINNED", x.tune(1, 7), due[way][5 - room] < 0 ? OrganBarrel.NONE : way);
+            }
+        }
+    }
+
+    private static void byAnglesAsNow() {
+        Check.sentence("SHIFTS (each 0 .. R less 1) (R as it is then)");
+        for (int r = 6; r < 24; r++) {
+            OrganBarrel x = new OrganBarrel();
+            for (int t = 0; t < 3; t++) {
+                x.note(t, 0, 4 * t, 2);
+            }
+            Check.due("settles of 24 ANGLES", x.settles(), 0);
+            x.barrel(r, 1, 3);
+            x.note(0, 0, 0, 1);
+            x.note(1, 0, 0, 1);
+            x.note(2, 0, 0, r - 1);
+            Check.due("settles of " + r + ", no room for TUNE 2 by SIDE 1", x.settles(), OrganBarrel.NO);
+            Check.cause("settles of " + r, x, 3, 0, 0, OrganBarrel.NONE);
+            x.side(0);
+            Check.due("settles of " + r + " by SIDE 0", x.settles(), 1);
+            Check.due("SHIFT of TUNE 2", x.tune(2, 2), 1);
+        }
     }
 
     private static void likeSums() {

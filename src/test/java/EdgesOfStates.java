@@ -20,6 +20,7 @@ public final class EdgesOfStates {
         backNone();
         backAnswers();
         backLeavesNone();
+        backOverABarrel();
         newerOnesBehindBack();
         firstReason();
         countsApart();
@@ -29,6 +30,11 @@ public final class EdgesOfStates {
         digestOf("small", Made::small, 1);
         digestOf("rich", Made::rich, 2, 1, 0);
         digestOf("full", Made::full, 1, 1, 1, 1, 1, 1);
+        digestOf("rich, of another LIMIT,", () -> {
+            OrganBarrel x = Made.rich();
+            x.sets(2, 2);
+            return x;
+        }, 2, 1, 0);
         digestChangesNothing();
         digestSeesEach();
         askedAtOnce();
@@ -201,6 +207,38 @@ public final class EdgesOfStates {
         Check.due("SIDE", x.told(8), 1);
     }
 
+    /** What is asked at once behind a barrel of other ANGLES, and behind going back over it, is by the ANGLES as they are then. */
+    private static void backOverABarrel() {
+        Check.sentence("R, K, T (as they are now)");
+        for (int r = 6; r < 24; r++) {
+            OrganBarrel x = new OrganBarrel();
+            x.ticks(0, 5);
+            x.note(0, 0, 3, 2);
+            x.shift(0, 23);
+            x.pins(0);
+            playsAsToldFrom(x, "24 ANGLES", 13, 10);
+            x.barrel(r, 1, 2);
+            x.ticks(0, 5);
+            x.note(0, 0, 3, 1);
+            x.pins(0);
+            playsAsToldFrom(x, r + " ANGLES", 3 * r / 5, 4 * r / 5 - 3 * r / 5);
+            for (int left = 4; left >= 1; left--) {
+                Check.due("back", x.back(), left);
+            }
+            playsAsToldFrom(x, "24 ANGLES again", 13, 10);
+        }
+    }
+
+    private static void playsAsToldFrom(OrganBarrel x, String when, int begin, int holds) {
+        Check.due("wrong 0, " + when, x.wrong(0), 0);
+        Check.due("tells 0 2, " + when, x.tells(0, 2), 0);
+        Check.due("tells 0 3, " + when, x.tells(0, 3), 1);
+        Check.due("heard 0, the first ANGLE, " + when, x.heard(0, begin), 1);
+        Check.due("heard 0, the last ANGLE, " + when, x.heard(0, begin + holds - 1), 1);
+        Check.due("free 0, " + when, x.free(0), x.told(4) - holds);
+        Check.due("all 6, " + when, x.all(6), x.told(4) - holds);
+    }
+
     private static void newerOnesBehindBack() {
         Check.sentence("leaves one to go back to (behind a call back)");
         OrganBarrel x = new OrganBarrel();
@@ -322,11 +360,13 @@ public final class EdgesOfStates {
 
     private static void digestChangesNothing() {
         Check.sentence("long digest()");
-        OrganBarrel[] made = {new OrganBarrel(), Made.small(), Made.rich(), Made.full()};
-        for (OrganBarrel x : made) {
+        OrganBarrel[] made = {new OrganBarrel(), Made.small(), Made.rich(), Made.full(), Made.many()};
+        int[] bad = {0, 0, 1, 1, 0};
+        for (int i = 0; i < made.length; i++) {
+            OrganBarrel x = made[i];
             long first = x.digest();
             Check.due("digest again", x.digest(), first);
-            Check.due("how often refused stays", x.told(0), made[0] == x || made[1] == x ? 0 : 1);
+            Check.due("how often refused stays", x.told(0), bad[i]);
         }
     }
 
