@@ -1,3 +1,5 @@
+import java.util.Arrays;
+
 /** The edges of SETTLING and promise 15; each sentence of the document has a test. */
 public final class EdgesOfSettling {
     private static final int R = 6;
@@ -16,6 +18,7 @@ public final class EdgesOfSettling {
         byAnglesAsNow();
         likeSums();
         shiftsGoRound();
+        farShifts();
         shiftsOfOthersStay();
         answersTheSum();
         noNotes();
@@ -257,6 +260,56 @@ public final class EdgesOfSettling {
             Check.due("settles: ALIKE, one of them on by 1 or R less 1", x.settles(), 1);
             Check.due("SHIFT of TUNE 0", x.tune(0, 2), 0);
         }
+    }
+
+    /**
+     * Each TUNE has two PINS that leave no ANGLE, of c and of the other ANGLES; those of c must all begin at one ANGLE. A
+     * TUNE begins with the one or with the other, so that SHIFTS up to two thirds of R are needed.
+     */
+    private static void farShifts() {
+        Check.sentence("SHIFTS (each 0 .. R less 1) .. those of the least sum (far ones)");
+        int farthest = 0;
+        for (int r = 6; r <= 24; r++) {
+            for (int c = 1; c < r; c++) {
+                for (int about = 0; about < 8 && 2 * c != r; about++) {
+                    farthest = Math.max(farthest, settlesFar(r, c, about));
+                }
+            }
+        }
+        Check.due("the farthest SHIFT of 24 ANGLES", farthest, 16);
+    }
+
+    private static int settlesFar(int r, int c, int about) {
+        OrganBarrel x = new OrganBarrel();
+        x.barrel(r, 1, 3);
+        x.gap(0, 0);
+        x.side(0);
+        int[] from = new int[3];
+        for (int t = 0; t < 3; t++) {
+            boolean last = (about >> t & 1) == 1;
+            from[t] = last ? r - c : 0;
+            x.note(t, 0, 0, last ? r - c : c);
+            x.note(t, 0, last ? r - c : c, last ? c : r - c);
+        }
+        int[] best = null;
+        for (int at = 0; at < r; at++) {
+            int[] shifts = new int[3];
+            for (int t = 0; t < 3; t++) {
+                shifts[t] = (at - from[t] + r) % r;
+            }
+            best = best == null || isLess(shifts, best) ? shifts : best;
+        }
+        String size = ", R " + r + ", PINS of " + c + ", turned about " + about;
+        Check.due("settles" + size, x.settles(), best[0] + best[1] + best[2]);
+        for (int t = 0; t < 3; t++) {
+            Check.due("SHIFT of TUNE " + t + size, x.tune(t, 2), best[t]);
+        }
+        return Math.max(best[0], Math.max(best[1], best[2]));
+    }
+
+    private static boolean isLess(int[] one, int[] other) {
+        int sum = one[0] + one[1] + one[2] - other[0] - other[1] - other[2];
+        return sum != 0 ? sum < 0 : Arrays.compare(one, other) < 0;
     }
 
     private static void shiftsOfOthersStay() {

@@ -17,6 +17,9 @@ public final class EdgesOfStates {
         fiveAtMost();
         olderOnesLost();
         allButTextCauseAndCounts();
+        gapsComeBack();
+        notesComeBack();
+        pinsComeBack();
         backNone();
         backAnswers();
         backLeavesNone();
@@ -41,6 +44,7 @@ public final class EdgesOfStates {
         calls512Refused();
         calls512Changing();
         calls512Wearing();
+        calls512WearingOneBridge();
         calls512Typing();
         Check.end();
     }
@@ -170,6 +174,123 @@ public final class EdgesOfStates {
         Check.due("back", x.back(), 3);
         Check.due("THE TEXT is empty yet", x.told(3), 0);
         Check.due("reads", x.reads(), -10);
+    }
+
+    /** Every GAP is another one before and behind the call. */
+    private static void gapsComeBack() {
+        Check.sentence("leaves one to go back to (all but ..: GAPS of KEYS)");
+        for (int keys = 1; keys <= 6; keys++) {
+            for (int changed = 0; changed < keys; changed++) {
+                OrganBarrel x = new OrganBarrel();
+                x.barrel(24, keys, 2);
+                for (int k = 0; k < keys; k++) {
+                    x.gap(k, 6 - k);
+                }
+                x.gap(changed, 0);
+                x.back();
+                gapsAre(x, keys, "gap of KEY " + changed);
+                x.barrel(24, keys, 2);
+                x.back();
+                gapsAre(x, keys, "barrel");
+                Check.due("reads", Check.reads(x, "g" + changed + " 0;"), 1);
+                x.back();
+                gapsAre(x, keys, "reads, g of KEY " + changed);
+                Check.due("reads", Check.reads(x, "g" + changed + " 0;g0 9;"), -1001);
+                gapsAre(x, keys, "a text that is stopped behind g of KEY " + changed);
+            }
+        }
+    }
+
+    private static void gapsAre(OrganBarrel x, int keys, String behind) {
+        for (int k = 0; k < keys; k++) {
+            Check.due("GAP of KEY " + k + " of " + keys + ", back behind " + behind, x.gap(k, 6 - k), 6 - k);
+        }
+    }
+
+    private static final int[][] TWELVE = {{0, 0, 1}, {3, 1, 3}, {1, 2, 5}, {2, 4, 2}, {0, 6, 4}, {3, 7, 6}, {1, 9, 7}, {2, 10, 3}, {0, 12, 2},
+        {3, 15, 8}, {2, 16, 1}, {0, 17, 5}};
+
+    /** 12 NOTES of which none has the KEY, START and LENGTH of that beside it; turned about for TUNE 1. */
+    private static OrganBarrel twelve() {
+        OrganBarrel x = new OrganBarrel();
+        for (int i = 0; i < 12; i++) {
+            Check.due("note " + i, x.note(0, TWELVE[i][0], TWELVE[i][1], TWELVE[i][2]), i);
+            int[] note = TWELVE[11 - i];
+            Check.due("note " + i, x.note(1, note[0], note[1], note[2]), i);
+        }
+        return x;
+    }
+
+    private static void twelveAre(OrganBarrel x, String behind) {
+        for (int i = 0; i < 12; i++) {
+            for (int what = 0; what <= 2; what++) {
+                Check.due("noteOf 0 " + i + " " + what + ", back behind " + behind, x.noteOf(0, i, what), TWELVE[i][what]);
+                Check.due("noteOf 1 " + i + " " + what + ", back behind " + behind, x.noteOf(1, i, what), TWELVE[11 - i][what]);
+            }
+        }
+    }
+
+    private static void notesComeBack() {
+        Check.sentence("leaves one to go back to (all but ..: NOTES)");
+        OrganBarrel x = twelve();
+        for (int t = 0; t <= 1; t++) {
+            x.ticks(t, 24);
+            for (int i = 11; i >= 9; i--) {
+                x.note(t, 3 - i % 4, 23 - i, 1);
+            }
+            for (int i = 0; i < 4; i++) {
+                x.back();
+            }
+            twelveAre(x, "ticks and other NOTES of TUNE " + t);
+        }
+        OrganBarrel y = twelve();
+        for (int i = 0; i < 12; i += 3) {
+            y.drop(0, i);
+            y.drop(1, 11 - i);
+            y.back();
+            y.back();
+        }
+        twelveAre(y, "drop");
+    }
+
+    private static void pinsComeBack() {
+        Check.sentence("leaves one to go back to (all but ..: PINS and their WEAR)");
+        OrganBarrel x = twelve();
+        x.ticks(1, 24);
+        Check.due("pins 0", x.pins(0), 12);
+        // PIN i has WEAR 12 less i: what is mended anew each time has been played so much more seldom.
+        for (int i = 0; i < 12; i++) {
+            x.mends(x.pin(0, i, 4));
+            x.plays(0, 1);
+        }
+        x.off(0);
+        Check.due("back behind off", x.back(), 4);
+        wornTwelve(x, "off");
+        x.shift(0, 5);
+        x.sets(0, 2);
+        Check.due("pins 0 anew", x.pins(0), 12);
+        x.back();
+        wornTwelve(x, "pins");
+        x.mends(7);
+        x.plays(0, 50);
+        x.back();
+        x.back();
+        wornTwelve(x, "mends and plays");
+        x.barrel(6, 1, 2);
+        x.back();
+        wornTwelve(x, "barrel");
+        Check.due("settles", x.settles(), 0);
+        x.back();
+        wornTwelve(x, "settles");
+    }
+
+    private static void wornTwelve(OrganBarrel x, String behind) {
+        for (int i = 0; i < 12; i++) {
+            int[] due = {TWELVE[i][0], TWELVE[i][1], TWELVE[i][2], 12 - i};
+            for (int what = 0; what <= 3; what++) {
+                Check.due("pin 0 " + i + " " + what + ", back behind " + behind, x.pin(0, i, what), due[what]);
+            }
+        }
     }
 
     private static void backNone() {
@@ -458,6 +579,25 @@ public final class EdgesOfStates {
         }
         Check.due("WEAR", x.pin(0, 0, 3), 25400);
         Check.due("the 512th: ANGLES not HEARD", x.bridge(0, 5), 23);
+    }
+
+    /** 18 PINS of one BRIDGE: it wears by 300 each time, which comes to more than 16 bits tell, and more than 17. */
+    private static void calls512WearingOneBridge() {
+        Check.sentence("WEAR of a BRIDGE: that of all its PINS together (at most 512 calls)");
+        OrganBarrel x = Made.large();
+        for (int track = 0; track < 18; track++) {
+            x.note(track % 3, track / 3, 3, 20);
+        }
+        Check.due("settles", x.settles(), 0);
+        int calls = 1 + 18 + 1;
+        int wear = 0;
+        while (calls < 510) {
+            Check.due("plays", x.plays(calls % 3, 50), 1);
+            wear += 300;
+            calls++;
+        }
+        Check.due("WEAR", x.bridge(0, 4), 147_000);
+        Check.due("the 512th: what mends answers", x.mends(0), wear);
     }
 
     private static void calls512Typing() {

@@ -32,6 +32,7 @@ public final class EdgesOfTexts {
         faultAtTheEndOf120();
         faultOfNothing();
         faultOfNumbers();
+        faultOfLongNumbers();
         faultOfBlanks();
         faultDoesNothing();
         ordersAsTheirCalls();
@@ -246,6 +247,32 @@ public final class EdgesOfTexts {
         NEW.done("t00 01:00 00 01;h02 23;", 2);
         NEW.stops("e99;", 0, 5, 0, 0);
         NEW.stops("e10;", 0, 5, 0, 0);
+    }
+
+    /** In each place where a number can stand, and at THE TEXT's end as well as before what comes behind it. */
+    private static void faultOfLongNumbers() {
+        Check.sentence("the place of the first byte that can not stand there (a number of three figures or more: its first byte); the "
+                + "TEXT's length, if it ends too early");
+        String[] before = {"t", "t0 ", "t0 8:", "t0 8:0 ", "t0 8:0 0 ", "t0 8:0 0 1,", "t0 8:0 0 1,1 ", "t0 8:0 0 1,1 0 ", "h", "h0 ", "p", "o",
+            "g", "g0 ", "e"};
+        for (String begun : before) {
+            for (String first : new String[] {"", "e1;", "  ", "t0 1:0 0 1;  "}) {
+                for (int figures = 1; figures <= 7; figures++) {
+                    String text = first + begun + "0123456".substring(0, figures);
+                    int due = figures > 2 ? first.length() + begun.length() : text.length();
+                    Check.due("reads '" + text + "'", Check.reads(new OrganBarrel(), text), -10 - due);
+                    if (figures > 2) {
+                        Check.due("reads '" + text + ";'", Check.reads(new OrganBarrel(), text + ";"), -10 - due);
+                        Check.due("reads '" + text + " '", Check.reads(new OrganBarrel(), text + " "), -10 - due);
+                        Check.due("reads '" + text + "x'", Check.reads(new OrganBarrel(), text + "x"), -10 - due);
+                    }
+                }
+            }
+        }
+        NEW.faults(" ".repeat(116) + "e123", 117);
+        NEW.faults(" ".repeat(117) + "e12", 120);
+        RICH.faults("e1;" + "0".repeat(117), 3);
+        RICH.faults("e" + "0".repeat(119), 1);
     }
 
     private static void faultOfBlanks() {

@@ -1,29 +1,25 @@
-import java.io.IOException;
 import java.lang.reflect.Constructor;
 import java.lang.reflect.Field;
 import java.lang.reflect.Method;
 import java.lang.reflect.Modifier;
-import java.nio.file.Files;
-import java.nio.file.Path;
 import java.util.ArrayList;
 import java.util.List;
+import java.util.Map;
 import java.util.Set;
 import java.util.TreeSet;
-import java.util.regex.Pattern;
 
-/** The rules of LANGUAGE.md that can be seen from outside or in the words of the file, and the document's public face. */
+/** The document's public face, and what LANGUAGE.md says of it, as it is seen from outside; RulesTest reads the file. */
 public final class LanguageTest {
     private static final String FACE = "barrel(int,int,int) sets(int,int) gap(int,int) side(int) ticks(int,int) "
             + "note(int,int,int,int) drop(int,int) shift(int,int) tune(int,int) noteOf(int,int,int) pins(int) off(int) "
             + "fits(int) settles() pin(int,int,int) why(int) all(int) bridge(int,int) free(int) plays(int,int) mends(int) "
             + "heard(int,int) tells(int,int) wrong(int) type(int) clear() reads() back() told(int) digest()";
 
-    public static void main(String[] args) throws IOException {
+    public static void main(String[] args) throws IllegalAccessException {
         face();
+        constants();
         membersArePrivate();
         classesInside();
-        words();
-        lengths();
         Check.end();
     }
 
@@ -46,6 +42,20 @@ public final class LanguageTest {
         Constructor<?>[] made = OrganBarrel.class.getDeclaredConstructors();
         Check.that("one public constructor", made.length == 1 && Modifier.isPublic(made[0].getModifiers())
                 && made[0].getParameterCount() == 0);
+    }
+
+    private static void constants() throws IllegalAccessException {
+        Map<String, Integer> due = Map.of("NONE", -1, "BAD", -2, "NO", -3, "FULL", -4);
+        Set<String> found = new TreeSet<>();
+        for (Field f : OrganBarrel.class.getDeclaredFields()) {
+            if (Modifier.isPublic(f.getModifiers())) {
+                found.add(f.getName());
+                Check.that(f.getName() + " is a constant int", f.getType() == int.class && Modifier.isStatic(f.getModifiers())
+                        && Modifier.isFinal(f.getModifiers()));
+                Check.due(f.getName(), f.getInt(null), due.getOrDefault(f.getName(), 0));
+            }
+        }
+        Check.that("the constants are the document's: " + found, found.equals(due.keySet()));
     }
 
     private static void membersArePrivate() {
@@ -95,38 +105,6 @@ public final class LanguageTest {
     private static void fewParameters(Class<?> c) {
         for (Method m : c.getDeclaredMethods()) {
             Check.that(m + " takes at most seven", m.getParameterCount() <= 7);
-        }
-    }
-
-    private static String code() throws IOException {
-        String file = Files.readString(Path.of("src/main/java/OrganBarrel.java"));
-        return file.replaceAll("(?s)/\\*.*?\\*/", "").replaceAll("//[^\n]*", "").replaceAll("'[^']*'", "0");
-    }
-
-    private static void words() throws IOException {
-        String code = code();
-        String[] forbidden = {"\\bthrow\\b", "\\btry\\b", "\\bcatch\\b", "\\bsynchronized\\b", "\\bassert\\b", "->", "::",
-            "\\bpackage\\b", "Exact\\b", "\\bSystem\\.(?!arraycopy)", "\\bThread\\b", "\\bRandom\\b", "\\bdouble\\b", "\\bfloat\\b",
-            "\\bObject\\b", "\\bhashCode\\b", "\\bprotected\\b", "import (?!java\\.util\\.Arrays;)", "\\bArrays\\.(?!fill\\b)",
-            "\\bMath\\.(?!min\\b|max\\b|abs\\b)", "static\\s*\\{", "\"", "while"};
-        for (String word : forbidden) {
-            Check.that("the file has no " + word, !Pattern.compile(word).matcher(code).find());
-        }
-    }
-
-    /** Methods of the class stand at four blanks, those of classes inside it at eight. */
-    private static void lengths() throws IOException {
-        String[] lines = Files.readString(Path.of("src/main/java/OrganBarrel.java")).split("\n");
-        Pattern head = Pattern.compile("^( {4}| {8})[A-Za-z].*\\)( \\{|)$");
-        int open = -1;
-        for (int i = 0; i < lines.length; i++) {
-            if (head.matcher(lines[i]).matches()) {
-                open = i;
-            }
-            if (open >= 0 && lines[i].matches("( {4}| {8})\\}")) {
-                Check.that("the method at line " + (open + 1) + " has at most sixty lines", i - open <= 60);
-                open = -1;
-            }
         }
     }
 }

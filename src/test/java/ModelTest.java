@@ -1,6 +1,9 @@
 import java.util.Random;
 
-/** Runs of 512 calls drawn from fixed seeds: every answer is that of the model, which says the document in another way. */
+/**
+ * Runs of 512 calls drawn from fixed seeds: every answer is that of the model, which says the document in another way. Then
+ * runs of two objects at once, call by call in turn: neither answers by what the other one was told.
+ */
 public final class ModelTest {
     private final Random random;
     private final OrganBarrel x = new OrganBarrel();
@@ -18,18 +21,36 @@ public final class ModelTest {
         for (int seed = 1; seed <= runs; seed++) {
             new ModelTest(seed).run();
         }
+        for (int seed = 1; seed <= runs / 5; seed++) {
+            runInTurn(new ModelTest(-seed), new ModelTest(-seed - runs));
+        }
         Check.end();
     }
 
     private void run() {
-        if (random.nextInt(4) > 0) {
-            int r = pick(6, 24), k = pick(1, 6), t = pick(2, 3);
-            due("barrel " + r + " " + k + " " + t, x.barrel(r, k, t), m.barrel(r, k, t));
-        }
+        begin();
         while (calls < 500) {
             step();
         }
         due("digest", x.digest(), m.digest());
+    }
+
+    private static void runInTurn(ModelTest one, ModelTest other) {
+        one.begin();
+        other.begin();
+        while (one.calls < 500 || other.calls < 500) {
+            ModelTest next = one.calls < other.calls ? one : other;
+            next.step();
+        }
+        one.due("digest", one.x.digest(), one.m.digest());
+        other.due("digest", other.x.digest(), other.m.digest());
+    }
+
+    private void begin() {
+        if (random.nextInt(4) > 0) {
+            int r = pick(6, 24), k = pick(1, 6), t = pick(2, 3);
+            due("barrel " + r + " " + k + " " + t, x.barrel(r, k, t), m.barrel(r, k, t));
+        }
     }
 
     private int pick(int least, int most) {
